@@ -359,17 +359,21 @@ public final class StampOrder {
     }
 
     public int forged(int official) {
-        return plan.hasOfficial(official) ? soonerBy(official) : NO_SUCH_FORGED;
+        if (!plan.hasOfficial(official)) {
+            return NO_SUCH_FORGED;
+        }
+        return soonerBy(official, soonRows().best(SOONEST));
     }
 
     public int fake() {
         if (!plan.isThere()) {
             return NO_SUCH;
         }
+        int honest = soonRows().best(SOONEST);
         int most = 0;
         int whose = NONE;
         for (int i = 0; i < plan.officials; i++) {
-            int hours = soonerBy(i);
+            int hours = soonerBy(i, honest);
             if (hours > most) {
                 most = hours;
                 whose = i;
@@ -786,11 +790,13 @@ public final class StampOrder {
         startKnown = true;
     }
 
-    private int soonerBy(int official) {
-        int honest = soonRows().best(SOONEST);
+    private int soonerBy(int official, int honest) {
+        if (honest == NONE) {
+            return NOT_FORGED;
+        }
         trial.search(walker, official, false);
         int forged = trial.best(SOONEST);
-        return honest == NONE || forged == NONE ? NOT_FORGED : honest - forged;
+        return forged == NONE ? NOT_FORGED : honest - forged;
     }
 
     /** Why a SLOT's row can't be gone by, 0 if it can. */
@@ -837,59 +843,44 @@ public final class StampOrder {
 
         void advance() {
             from = to;
-            while (from < length && (signAt(from) == 32 || signAt(from) == 10)) {
+            while (from < length && (bytes[from] == ' ' || bytes[from] == '\n')) {
                 from++;
             }
-            to = from + 1;
+            to = from;
+            number = 0;
+            while (to < length && bytes[to] >= 'a' && bytes[to] <= 'z') {
+                to++;
+            }
+            if (to > from) {
+                kind = WORD;
+                return;
+            }
+            while (to < length && bytes[to] >= '0' && bytes[to] <= '9') {
+                number = Math.min(BIG, number * 10 + bytes[to] - '0');
+                to++;
+            }
+            if (to > from) {
+                kind = NUMBER;
+                return;
+            }
             if (from >= length) {
                 kind = END;
-                to = from;
-            } else if (isLetter(from)) {
-                kind = WORD;
-                while (to < length && isLetter(to)) {
-                    to++;
-                }
-            } else if (isDigit(from)) {
-                kind = NUMBER;
-                while (to < length && isDigit(to)) {
-                    to++;
-                }
-                number = valueOfDigits();
-            } else {
-                kind = signAt(from) == ';' ? SIGN : STRANGE;
+                return;
             }
+            kind = bytes[from] == ';' ? SIGN : STRANGE;
+            to = from + 1;
         }
 
         boolean isWord(String word) {
             if (kind != WORD || to - from != word.length()) {
                 return false;
             }
-            for (int i = 0; i < word.length(); i++) {
-                if (signAt(from + i) != word.charAt(i)) {
+            for (int i = 0; i < word.length() && from + i < length; i++) {
+                if (bytes[from + i] != word.charAt(i)) {
                     return false;
                 }
             }
             return true;
-        }
-
-        private int valueOfDigits() {
-            int value = 0;
-            for (int i = from; i < to && value < BIG; i++) {
-                value = value * 10 + signAt(i) - '0';
-            }
-            return value;
-        }
-
-        private boolean isLetter(int place) {
-            return signAt(place) >= 'a' && signAt(place) <= 'z';
-        }
-
-        private boolean isDigit(int place) {
-            return signAt(place) >= '0' && signAt(place) <= '9';
-        }
-
-        private int signAt(int place) {
-            return place >= 0 && place < length && place < bytes.length ? bytes[place] & 255 : NONE;
         }
     }
 
@@ -967,9 +958,10 @@ public final class StampOrder {
             tell(PRICE, NONE);
             tell(LEAVE_FROM, NONE);
             tell(LEAVE_TO, NONE);
-            boolean more = true;
-            for (int i = 0; i < MARKS && more; i++) {
-                more = readMark();
+            for (int i = 0; i < MARKS; i++) {
+                readMark("lunch", LUNCH, 0, DAY_HOURS - 1);
+                readMark("fades", FADES, 1, 20);
+                readMark("price", PRICE, 0, 99);
             }
             if (plan.told[PRICE][official] == NONE) {
                 tell(PRICE, 0);
@@ -977,20 +969,13 @@ public final class StampOrder {
             plan.officials++;
         }
 
-        private boolean readMark() {
-            return readMark("lunch", LUNCH, 0, DAY_HOURS - 1)
-                    || readMark("fades", FADES, 1, 20)
-                    || readMark("price", PRICE, 0, 99);
-        }
-
-        private boolean readMark(String word, int what, int lowest, int highest) {
+        /** A MARK that is there already stays unread: no sign that could end the LINE. */
+        private void readMark(String word, int what, int lowest, int highest) {
             int official = plan.officials;
-            if (fault != 0 || !tape.isWord(word) || official >= MOST_OFFICIALS || plan.told[what][official] != NONE) {
-                return false;
+            if (fault == 0 && official < MOST_OFFICIALS && plan.told[what][official] == NONE && tape.isWord(word)) {
+                tape.advance();
+                tell(what, takeNumber(lowest, highest));
             }
-            tape.advance();
-            tell(what, takeNumber(lowest, highest));
-            return true;
         }
 
         /** Of the OFFICIAL that is being read. */
@@ -1260,7 +1245,7 @@ public final class StampOrder {
         }
 
         int firstOpen(int official, int hour) {
-            if (official < 0 || official >= MOST_OFFICIALS || !isHour(hour)) {
+            if (official < 0 || official >= MOST_OFFICIALS || hour < 0 || hour >= HOURS) {
                 return NONE;
             }
             return next[official][hour];
@@ -1521,10 +1506,15 @@ public final class StampOrder {
             }
         }
 
-        /** Who was gone to is not gone to again; and each that is missing takes an HOUR at least. */
+        /** Who was gone to is not gone to again, who is barred for good never; each takes an HOUR at least. */
         private boolean isHopeless(int missing, int depth) {
             if ((missing & used) != 0) {
                 return true;
+            }
+            for (int i = 0; i < MOST_OFFICIALS; i++) {
+                if (hasBit(missing, i) && walker.unbarred(i, walker.hour) >= HOURS) {
+                    return true;
+                }
             }
             if (all || found == 0) {
                 return false;
