@@ -467,7 +467,12 @@ public final class StampOrder {
     }
 
     public int run(int slot) {
-        return queue(slot, 1);
+        int refused = refusal(slot);
+        if (refused != 0) {
+            return refused;
+        }
+        queue.serve(slots, slot, 1);
+        return queue.lastThrough(1);
     }
 
     public int queue(int slot, int n) {

@@ -176,6 +176,12 @@ public final class PromisesTest {
         fault("way 0 1 2;", 1, 0);
         fault("official room 0 from 0 to 9 days 31;", 1, 0);
         fault("officerooms 3", 1, 0);
+        fault("office roomsz 3", 1, 7);
+        fault("office aroom 3", 1, 7);
+        fault("office{", 1, 6);
+        fault("office`", 1, 6);
+        fault("office rooms /", 1, 13);
+        fault("office rooms :", 1, 13);
         fault("Office", 1, 0);
         fault("office\trooms 1 in 0 at 0;", 1, 6);
         fault("office\0", 1, 6);
@@ -856,6 +862,8 @@ public final class PromisesTest {
         x = free(2, "needs 1 0; permit 1;");
         due("50 anyway", x.parted(), -1);
         due("50 nobody", free(2, "").parted(), -1);
+        due("50 whom 0", free(2, "needs 1 0; needs 0 1; permit 1; bars 0 1;").parted(), 1);
+        due("50 who 1", free(3, "needs 1 0; bars 1 0; permit 1;").parted(), 10);
         due("50 no office", new StampOrder().parted(), -2);
         x = free(4, "needs 3 2; bars 3 2; permit 3;");
         due("50 needs ahead of bars", x.parted(), 32);
