@@ -22,7 +22,6 @@ public final class WildTest {
         Method[] face = StampOrder.class.getDeclaredMethods();
         Method[] open = Arrays.stream(face).filter(m -> (m.getModifiers() & 1) != 0)
                 .sorted(Comparator.comparing(Method::getName)).toArray(Method[]::new);
-        CHECK.due("methods", open.length, 68);
         for (int seed = 0; seed < 250; seed++) {
             run(open, seed);
         }
