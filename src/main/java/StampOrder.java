@@ -71,7 +71,7 @@ public final class StampOrder {
     private final Plan[] images;
     private boolean startKnown;
     private int startFirst;
-    private int startCount;
+    private int startTakes;
 
     public StampOrder() {
         tape = new Tape();
@@ -355,7 +355,7 @@ public final class StampOrder {
         if (!startKnown) {
             findStart();
         }
-        return what == 0 ? startFirst : startCount;
+        return what == 0 ? startFirst : startTakes;
     }
 
     public int forged(int official) {
@@ -777,19 +777,15 @@ public final class StampOrder {
     }
 
     private void findStart() {
-        int fewestHours = FOREVER;
         startFirst = NONE;
-        startCount = NONE;
+        startTakes = NONE;
         for (int hour = 0; hour < WEEK_HOURS; hour++) {
             spare.beginAt(hour);
             trial.search(spare, NONE, false);
             int takes = trial.best(SOONEST) - hour;
-            if (trial.found > 0 && takes < fewestHours) {
-                fewestHours = takes;
+            if (trial.found > 0 && (startFirst == NONE || takes < startTakes)) {
                 startFirst = hour;
-                startCount = 1;
-            } else if (trial.found > 0 && takes == fewestHours) {
-                startCount++;
+                startTakes = takes;
             }
         }
         startKnown = true;

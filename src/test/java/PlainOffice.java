@@ -831,7 +831,7 @@ final class PlainOffice {
             return NONE;
         }
         int[] best = Collections.min(takes, Comparator.<int[]>comparingInt(t -> t[0]).thenComparingInt(t -> t[1]));
-        return what == 0 ? best[1] : (int) takes.stream().filter(t -> t[0] == best[0]).count();
+        return what == 0 ? best[1] : best[0];
     }
 
     int forged(int o) {

@@ -695,16 +695,20 @@ public final class PromisesTest {
     private static void start() {
         StampOrder x = Check.told("office rooms 2 in 0 at 7; official room 1 from 3 to 3 days 3; way 0 1 2; permit 0;");
         due("39 first", x.start(0), 1);
-        due("39 how many", x.start(1), 2);
+        due("39 walks, and is stamped", x.start(1), 3);
         x.waits(20);
         due("39 anew", x.start(0), 1);
+        due("39 anew", x.start(1), 3);
         x.anew();
         x.leave(0, 0, 0);
         due("39 leave", x.start(0), 11);
-        due("39 leave", x.start(1), 1);
+        due("39 leave", x.start(1), 3);
+        x.leave(0, 0, 4);
+        due("39 waits over the week's end", x.start(0), 49);
+        due("39 waits over the week's end", x.start(1), 5);
         x.wants(0);
         due("39 nobody", x.start(0), 0);
-        due("39 nobody", x.start(1), 50);
+        due("39 nobody", x.start(1), 0);
         due("39 no such", x.start(2), -2);
         due("39 below", x.start(-1), -2);
         x = Check.told("office rooms 1 in 0 at 0;" + FREE + FREE + "needs 0 1; needs 1 0; permit 1;");
@@ -712,7 +716,12 @@ public final class PromisesTest {
         due("39 none", x.start(1), -1);
         x = Check.told("office rooms 2 in 1 at 0;" + FREE + "permit 0; way 0 1 4;");
         due("39 from its room", x.start(0), 0);
-        due("39 all hours", x.start(1), 50);
+        due("39 from its room", x.start(1), 5);
+        x = Check.told("office rooms 1 in 0 at 0; official room 0 from 3 to 3 days 31;"
+                + "official room 0 from 6 to 6 days 31; permit 0 1;");
+        due("39 one behind the other", x.start(0), 3);
+        due("39 one behind the other", x.start(1), 4);
+        due("39 no office", new StampOrder().start(1), -2);
     }
 
     // 40, 41
@@ -1095,9 +1104,11 @@ public final class PromisesTest {
         due("7 asks", x.asks(0, 0), 0);
         due("2 count", x.count(3), 1);
         due("39 before", x.start(0), 0);
+        due("39 before", x.start(1), 1);
         due("61 never", x.ask(0, 2, 0, 1), 0);
         due("61 never", x.ask(2, 0, 0, 1), 0);
         due("39 after", x.start(0), -1);
+        due("39 after", x.start(1), -1);
         due("61 one twice", x.ask(0, 0, 0, 1), -2);
         for (int bad : new int[] {-1, 3}) {
             due("61 no such", x.ask(bad, 0, 0, 1), -2);
