@@ -286,6 +286,8 @@ public final class BoundaryTextTest {
             S.fault(1, "^" + word + " 0 0 1;");
         }
         S.fault(1, HEAD + ONE + " price 0 ^price 0;");
+        spoiltWords(HEAD + ONE + " lunch 1 fades 1 price 1;" + ONE + ";way 0 1 1;needs 0 1;bars 0 1;"
+                + "leave 0 from 0 to 0;permit 0;");
         S.says("2 a number out of its bounds, not as said.");
         for (String big : new String[] {"7", "4294967297", "18446744073709551617", "100000", "9".repeat(500)}) {
             S.fault(2, "office rooms ^" + big + " in 0 at 0;");
@@ -298,6 +300,23 @@ public final class BoundaryTextTest {
         S.fault(3, EIGHT + "permit 0;\n^official");
         S.fault(3, EIGHT + "^official room 99 #");
         S.fault(1, EIGHT + "^officials");
+    }
+
+    /** Every word with one letter another one, one less, one more. */
+    private static void spoiltWords(String text) {
+        S.fine(text, 8);
+        int word = 0;
+        for (int i = 0; i < text.length(); i++) {
+            if (Character.isLetter(text.charAt(i))) {
+                S.fault(1, word, text.substring(0, i) + "x" + text.substring(i + 1));
+                S.fault(1, word, text.substring(0, i) + "x" + text.substring(i));
+                if (i > word || Character.isLetter(text.charAt(i + 1))) {
+                    S.fault(1, word, text.substring(0, i) + text.substring(i + 1));
+                }
+            } else {
+                word = i + 1;
+            }
+        }
     }
 
     private static void slots() {
