@@ -424,7 +424,7 @@ public final class StampOrder {
             return NO_SUCH;
         }
         loose.weigh(plan);
-        return loose.officialAt(i, plan.permit);
+        return loose.officialAt(i);
     }
 
     public int parted() {
@@ -1732,7 +1732,7 @@ public final class StampOrder {
             return costs[0];
         }
 
-        int officialAt(int i, int permit) {
+        int officialAt(int i) {
             if (i < 0 || i >= lengths[0]) {
                 return NONE;
             }

@@ -1,3 +1,5 @@
+import java.util.Random;
+
 /** What the tests share: answers compared with those that are due, and texts fed. */
 final class Check {
     private final String name;
@@ -28,6 +30,11 @@ final class Check {
         if (wrong > 0 || asked == 0) {
             System.exit(1);
         }
+    }
+
+    /** The seed is spread first: of small seeds the first draws are nearly all alike. */
+    static Random randomOf(long seed) {
+        return new Random(seed * 0x9e3779b97f4a7c15L);
     }
 
     /** Puts a text (signs 0 to 255) on an empty TAPE. */

@@ -12,7 +12,7 @@ public final class PlainModelTest {
     private int officials;
 
     private PlainModelTest(long seed) {
-        random = new Random(seed);
+        random = Check.randomOf(seed);
     }
 
     public static void main(String[] args) {
@@ -34,7 +34,7 @@ public final class PlainModelTest {
         tell(office(officials));
         for (int i = 0; i < 120 && !CHECK.isWrong(); i++) {
             int kind = random.nextInt(3) == 0 ? 14 + random.nextInt(10) : 2 + random.nextInt(CALLS - 1);
-            if (officials > 5 && isDear(kind)) {
+            if (officials > 7 && isDear(kind)) {
                 continue;
             }
             call(kind);

@@ -437,7 +437,7 @@ final class PlainOffice {
     }
 
     private static boolean inHours(Official official, int hour) {
-        return members(official.days).contains(hour / 10 % 5)
+        return (official.days >> hour / 10 % 5 & 1) == 1
                 && hour % 10 >= official.opens && hour % 10 <= official.shuts && hour % 10 != official.lunch;
     }
 

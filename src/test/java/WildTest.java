@@ -29,7 +29,7 @@ public final class WildTest {
     }
 
     private static void run(Method[] open, int seed) throws Exception {
-        Random random = new Random(seed);
+        Random random = Check.randomOf(seed);
         StampOrder x = new StampOrder();
         StampOrder y = new StampOrder();
         for (int i = 0; i < 512; i++) {
